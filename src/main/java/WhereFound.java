@@ -446,7 +446,7 @@ public final class WhereFound {
     }
 
     private static boolean canBeSpan(int a, int b) {
-        return canBeFiledDay(a) && canBeFiledDay(b) && b >= a && b - a < LONGEST_FILING;
+        return a >= 0 && b >= a && b < FILED_DAYS && b - a < LONGEST_FILING;
     }
 
     private static boolean canBeFiledHour(int hour) {
