@@ -283,7 +283,8 @@ public final class WhereFound {
         if (!canBeFiledDay(day) || !canBeHour(hour) || !canBePlace(place)) {
             return NONE;
         }
-        return live.bitsOfThose(day, hour, place);
+        int bits = live.bitsOfThose(day, hour, place);
+        return bits == 0 ? NONE : bits;
     }
 
     // ---- what would be

@@ -389,7 +389,7 @@ final class Model {
             int best = -1;
             int bits = 0;
             for (int p = 9; p >= 0; p--) {
-                int those = there(d, i, p);
+                int those = Math.max(0, there(d, i, p));
                 if (those != 0 && Integer.bitCount(those) >= Integer.bitCount(bits)) {
                     best = p;
                     bits = those;
@@ -413,7 +413,7 @@ final class Model {
             int[] f = men.get(i).filed.get(d);
             bits += f != null && f[0] == h && f[1] == p ? 1 << i : 0;
         }
-        return bits;
+        return bits == 0 ? -1 : bits;
     }
 
     int danger(int a) {
