@@ -280,11 +280,10 @@ public final class WhereFound {
     }
 
     public int there(int day, int hour, int place) {
-        if (!canBeFiledDay(day) || !canBeHour(hour) || !canBePlace(place)) {
+        if (!canBeFiledDay(day) || !canBeFiledHour(hour) || !canBePlace(place)) {
             return NONE;
         }
-        int bits = live.bitsOfThose(day, hour, place);
-        return bits == 0 ? NONE : bits;
+        return live.bitsOfThose(day, hour, place);
     }
 
     // ---- what would be

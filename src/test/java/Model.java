@@ -405,7 +405,7 @@ final class Model {
     }
 
     int there(int d, int h, int p) {
-        if (d < 0 || d > 1099 || h < 0 || h > 23 || p < 0 || p > 9) {
+        if (d < 0 || d > 1099 || h < 5 || h > 22 || p < 0 || p > 9) {
             return -1;
         }
         int bits = 0;
@@ -413,7 +413,7 @@ final class Model {
             int[] f = men.get(i).filed.get(d);
             bits += f != null && f[0] == h && f[1] == p ? 1 << i : 0;
         }
-        return bits == 0 ? -1 : bits;
+        return bits;
     }
 
     int danger(int a) {

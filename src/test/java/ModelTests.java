@@ -228,6 +228,8 @@ public final class ModelTests {
         int near = nearDay();
         check.due("round " + near + " " + h + " " + w, x.round(near, h, w), m.round(near, h, w));
         check.due("there " + near + " " + h, x.there(near, h, p), m.there(near, h, p));
+        int any = upTo(27) - 1;
+        check.due("there " + near + " " + any, x.there(near, any, p), m.there(near, any, p));
         check.due("danger " + a, x.danger(a), m.danger(a));
         check.due("easier " + a, x.easier(a), m.easier(a));
         check.due("without " + a + " " + k, x.without(a, k), m.without(a, k));

@@ -235,7 +235,7 @@ public final class PromiseTests {
         C.due("none such any more", Check.of(x, 1, 0), THROWS);
         C.due("none such any more", x.filed(1, 0, 0), -1);
         C.due("none such any more", x.chance(1, true), -1);
-        C.due("nobody there", x.there(0, 12, 3), -1);
+        C.due("nobody there", x.there(0, 12, 3), 0);
         C.due("athlete", x.athlete(4), 1);
         C.due("filed", x.filed(1, 0, 0), -1);
         C.due("tests", Check.of(x, 1, 5) + Check.of(x, 1, 6) + Check.of(x, 1, 2), 0);
@@ -990,26 +990,32 @@ public final class PromiseTests {
         x.file(1, 3, 3, 11, 7);
         C.due("two", x.there(3, 10, 7), 5);
         C.due("one", x.there(3, 11, 7), 2);
-        C.due("nobody at that place", x.there(3, 10, 6), -1);
-        C.due("nobody in that hour", x.there(3, 12, 7), -1);
-        C.due("nobody on that day", x.there(4, 10, 7), -1);
+        C.due("nobody at that place", x.there(3, 10, 6), 0);
+        C.due("nobody in that hour", x.there(3, 12, 7), 0);
+        C.due("nobody on that day", x.there(4, 10, 7), 0);
         C.due("hour 0", x.there(3, 0, 0), -1);
+        C.due("hour 4", x.there(3, 4, 0), -1);
+        C.due("hour 5", x.there(3, 5, 0), 0);
+        C.due("hour 22", x.there(3, 22, 0), 0);
         C.due("hour 23", x.there(3, 23, 0), -1);
         C.due("hour 24", x.there(3, 24, 0), -1);
         C.due("hour -1", x.there(3, -1, 0), -1);
+        C.due("place 0", x.there(3, 10, 0), 0);
+        C.due("place 9", x.there(3, 10, 9), 0);
         C.due("place 10", x.there(3, 10, 10), -1);
         C.due("place -1", x.there(3, 10, -1), -1);
         C.due("place of the next hour", x.there(3, 10, 17), -1);
         C.due("day -1", x.there(-1, 10, 7), -1);
         C.due("day 1100", x.there(1100, 10, 7), -1);
-        C.due("day 1099", x.there(1099, 10, 7), -1);
+        C.due("day 1099", x.there(1099, 10, 7), 0);
         x.file(1, 1099, 1099, 22, 9);
         C.due("day 1099, filed", x.there(1099, 22, 9), 2);
         x.file(1, 3, 3, 10, 7);
         C.due("three", x.there(3, 10, 7), 7);
-        C.due("none any more", x.there(3, 11, 7), -1);
-        C.due("a new object", new WhereFound().there(0, 0, 0), -1);
-        C.due("athletes, nothing filed", withAthletes(4).there(0, 10, 0), -1);
+        C.due("none any more", x.there(3, 11, 7), 0);
+        C.due("a new object, hour 0", new WhereFound().there(0, 0, 0), -1);
+        C.due("a new object, hour 10", new WhereFound().there(0, 10, 0), 0);
+        C.due("athletes, nothing filed", withAthletes(4).there(0, 10, 0), 0);
     }
 
     // ---- promises 22 to 25
