@@ -32,7 +32,8 @@ public final class FaceTests {
         methods(face);
         for (Field field : face.getDeclaredFields()) {
             boolean known = field.getName().equals("NONE");
-            C.holds("private " + field.getName(), known || Modifier.isPrivate(field.getModifiers()));
+            C.holds("private " + field.getName(),
+                known || Modifier.isPrivate(field.getModifiers()));
         }
         for (Class<?> inside : face.getDeclaredClasses()) {
             int is = inside.getModifiers();

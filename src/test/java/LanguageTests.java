@@ -12,21 +12,27 @@ public final class LanguageTests {
     public static void main(String[] args) throws Exception {
         String source = Files.readString(Path.of("src/main/java/WhereFound.java"));
         C.part("language");
-        C.holds("plain signs", source.chars().allMatch(c -> c == '\n' || c >= 32 && c < 127));
         String code = source.replaceAll("/\\*(?s:.*?)\\*/", "").replaceAll("//.*", "");
-        for (String word : List.of("->", "::", "Exact", "finally", "synchronized", "assert",
-            "catch", "try", "package", "protected", "getMessage", "values()", "hashCode",
-            "toString", "static {", "throws Exception", "double", "float", "var ")) {
+        C.holds("plain signs", code.chars().allMatch(c -> c >= 1 && c < 128));
+        for (String word : List.of("::", "Exact(", "finally", "synchronized", "assert ", "package ",
+            "protected ", "getMessage", "hashCode", "static {", "throws Exception", "Throwable",
+            "catch (Exception", "catch (RuntimeException", "NullPointer", "ClassCast",
+            "ArrayIndex", "NegativeArraySize", "ArrayStore")) {
             C.holds("no " + word, !code.contains(word));
         }
-        only(code, "import ([\\w.]+);",
-            Set.of("java.util.Arrays", "java.util.NoSuchElementException"));
-        only(code, "throw new (\\w+)", Set.of("NoSuchElementException"));
+        for (String line : code.split("\n")) {
+            C.holds("no lambda: " + line,
+                !line.contains("->") || line.matches(" *(case|default).*"));
+        }
+        only(code, "import ([\\w.]+);", Set.of("java.util.ArrayList", "java.util.Arrays",
+            "java.util.Iterator", "java.util.List", "java.util.NoSuchElementException"));
+        only(code, "throw new (\\w+)", Set.of("IllegalStateException", "IllegalArgumentException",
+            "IndexOutOfBoundsException", "ArithmeticException", "UnsupportedOperationException",
+            "NoSuchElementException", "RuntimeException"));
         only(code, "System\\.(\\w+)", Set.of("arraycopy"));
-        only(code, "Arrays\\.(\\w+)\\(", Set.of("fill"));
-        only(code, "\\bMath\\.(\\w+)", Set.of("min"));
-        only(code, "Integer\\.(\\w+)", Set.of("compare", "bitCount"));
-        C.holds("no more than 12 classes", many(code, "\\bclass \\w+") <= 12);
+        only(code, "Arrays\\.(\\w+)\\(", Set.of("copyOf", "copyOfRange", "fill"));
+        C.holds("no more than 12 classes inside",
+            many(code, "\\b(class|record|enum|interface) \\w+") <= 13);
         C.holds("no package-visible static state",
             many(code, "(?m)^\\s+(private )?static (?!final)\\w+(\\[\\])? \\w+( =|;)") == 0);
         methods(code);

