@@ -5,6 +5,9 @@ public final class EdgeTests {
     private static final int LEAST = Subject.LEAST;
     private static final int MOST = Subject.MOST;
     private static final int BLANKS = 0x20202020;
+    /** Hours of which 10 times make 50 and 54, as 5 and a place do, if ints wrap. */
+    private static final int AS_FIVE = -2147483643;
+    private static final int NEAR_FIVE = 429496735;
     private static final int[] DAYS = {0, 1, 2, 3, 4, 5, 29, 30, 59, 60};
 
     private static final Check C = new Check();
@@ -823,7 +826,8 @@ public final class EdgeTests {
         for (int day : new int[] {0, 1099}) {
             int[][] due = {{4, NONE, NONE}, {5, 9, 1}, {6, NONE, NONE}, {12, NONE, NONE},
                 {13, 3, 32}, {21, NONE, NONE}, {22, 0, 6}, {23, NONE, NONE}, {24, NONE, NONE},
-                {0, NONE, NONE}, {-2, NONE, NONE}, {MOST, NONE, NONE}, {LEAST, NONE, NONE}};
+                {0, NONE, NONE}, {-2, NONE, NONE}, {MOST, NONE, NONE}, {LEAST, NONE, NONE},
+                {AS_FIVE, NONE, NONE}, {NEAR_FIVE, NONE, NONE}};
             for (int[] one : due) {
                 C.due("hour " + one[0] + ", place", x.round(day, one[0], 0), one[1]);
                 C.due("hour " + one[0] + ", bits", x.round(day, one[0], 1), one[2]);
@@ -878,8 +882,10 @@ public final class EdgeTests {
             C.due("hour 22, place 0", x.there(day, 22, 0), 6);
             C.due("hour 22, place 1", x.there(day, 22, 1), 8);
             C.due("hour 21, place 0", x.there(day, 21, 0), 0);
-            for (int hour : new int[] {LEAST, -1, 0, 4, 23, 24, MOST}) {
+            for (int hour : new int[] {LEAST, -1, 0, 4, 23, 24, MOST, AS_FIVE, NEAR_FIVE}) {
                 C.due("hour " + hour, x.there(day, hour, 0), NONE);
+                C.due("hour " + hour, x.there(day, hour, 5), NONE);
+                C.due("hour " + hour, x.there(day, hour, 9), NONE);
             }
             for (int place : new int[] {LEAST, -1, 10, 11, MOST}) {
                 C.due("place " + place, x.there(day, 22, place), NONE);

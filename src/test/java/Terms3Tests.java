@@ -211,6 +211,16 @@ public final class Terms3Tests {
         x.file(5, 3, 3, 10, 0);
         C.due("three before two", x.round(3, 10, 0), 0);
         C.due("who", x.round(3, 10, 1), 4 + 16 + 32);
+        x.file(0, 5, 5, 9, 9);
+        x.file(1, 5, 5, 9, 9);
+        x.file(2, 5, 5, 10, 0);
+        x.file(3, 5, 5, 10, 9);
+        x.file(4, 5, 5, 11, 0);
+        x.file(5, 5, 5, 11, 0);
+        C.due("the hours beside it are no matter", x.round(5, 10, 0), 0);
+        C.due("the hour ahead", x.round(5, 9, 0), 9);
+        C.due("the hour behind", x.round(5, 11, 0), 0);
+        C.due("who", x.round(5, 9, 1) * 100 + x.round(5, 11, 1), 348);
     }
 
     private static void leastOfSeveral() {
