@@ -54,6 +54,7 @@ public final class EdgeTests {
         easierNone();
         without();
         worst();
+        athletesApart();
         refusedCallsChangeNothing();
         questionsChangeNothing();
         C.finish();
@@ -344,6 +345,22 @@ public final class EdgeTests {
         }
         C.due("failures of his own", x.state(DAYS), y.state(DAYS));
         C.due("not struck", x.failure(1, 0, 2) + x.failure(1, 1, 2), 0);
+        Subject z = Subject.withAthletes(2);
+        C.due("a fault behind five more", z.tell("athlete 5;athlete 6;athlete 7;athlete 8;"
+            + "athlete 9;file 5 0 0 12 3;at 0 12;test 5 3 missed;test 2 3 found;x"), NONE);
+        for (int athlete = 1; athlete < 6; athlete++) {
+            C.due("none such: " + athlete, z.of(athlete, 0), THROWS);
+            C.due("none such: " + athlete, z.chance(athlete, true), NONE);
+            C.due("none such: " + athlete, z.filed(athlete, 0, 0), NONE);
+            C.due("none such: " + athlete, z.failure(athlete, 0, 0), NONE);
+            C.due("none such: " + athlete, z.hole(athlete, 0), NONE);
+            C.due("none such: " + athlete, z.danger(athlete), NONE);
+            C.due("none such: " + athlete, z.test(athlete, 3, true), NONE);
+            C.due("none such: " + athlete, z.file(athlete, 1, 1, 10, 1), NONE);
+        }
+        C.due("nor are more drawn", z.lot(0, 2), NONE);
+        C.due("nor weighed", z.chance(0, true), 1);
+        C.due("nor met", z.round(0, NONE, 1), 0);
     }
 
     // ---- promise 5: "FAULT of the latest tell(); 0 without, and ahead of any."
@@ -1134,6 +1151,38 @@ public final class EdgeTests {
         C.due("of two alike the least", worstOf(new int[] {0, 4, 4}, new int[] {0, 0, 0}), 1);
         C.due("the last of six", worstOf(new int[] {1, 1, 1, 1, 1, 2}, new int[6]), 5);
         C.due("the one in the midst", worstOf(new int[] {1, 1, 2, 1, 1, 1}, new int[6]), 2);
+    }
+
+    // ---- what is asked of one athlete, right behind what was asked of another
+
+    private static void athletesApart() {
+        C.part("each ATHLETE has his own FAILURES");
+        Subject x = Subject.withAthletes(1, 1, 1);
+        for (int i = 0; i < 3; i++) {
+            x.file(i, 0, 59, 10, 1);
+        }
+        x.set(2, 0);
+        x.at(5, 10);
+        x.miss(0, 60);
+        x.appeal(0, 59);
+        x.miss(2, 1);
+        // Behind the first one, who has the most, each of the others has as few as he has.
+        int[][] due = {{2, 20 - 1, 1, 125, 60}, {0, 0, 0, NONE, 0}, {1, 0, 0, 125, 1}};
+        for (int who : new int[] {0, 1, 0, 2, 1, 2, 0}) {
+            C.due("points of " + who, x.of(who, 1), due[who][0]);
+            C.due("first again", x.of(0, 1), due[0][0]);
+            C.due("violations of " + who, x.of(who, 3), due[who][1]);
+            C.due("first again", x.of(0, 3), due[0][1]);
+            C.due("danger of " + who, x.danger(who), due[who][2]);
+            C.due("first again", x.danger(0), due[0][2]);
+            C.due("easier of " + who, x.easier(who), due[who][3]);
+            C.due("first again", x.easier(0), due[0][3]);
+            C.due("no violation behind those of " + who, x.violation(who, due[who][1]), NONE);
+            C.due("failures of " + who, x.of(who, 2), due[who][4]);
+            C.due("no failure behind those of " + who, x.failure(who, due[who][4], 4), NONE);
+        }
+        C.due("the last is open", x.failure(2, 0, 4), 1);
+        C.due("weights", x.of(0, 8) * 100 + x.of(1, 8) * 10 + x.of(2, 8), 362);
     }
 
     // ---- calls that are refused, and questions
