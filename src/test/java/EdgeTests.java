@@ -346,8 +346,10 @@ public final class EdgeTests {
         C.due("failures of his own", x.state(DAYS), y.state(DAYS));
         C.due("not struck", x.failure(1, 0, 2) + x.failure(1, 1, 2), 0);
         Subject z = Subject.withAthletes(2);
-        C.due("a fault behind five more", z.tell("athlete 5;athlete 6;athlete 7;athlete 8;"
-            + "athlete 9;file 5 0 0 12 3;at 0 12;test 5 3 missed;test 2 3 found;x"), NONE);
+        for (int i = 0; i < 2; i++) {
+            C.due("a fault behind five more", z.tell("athlete 5;athlete 6;athlete 7;athlete 8;"
+                + "athlete 9;file 5 0 0 12 3;at 0 12;test 5 3 missed;test 2 3 found;x"), NONE);
+        }
         for (int athlete = 1; athlete < 6; athlete++) {
             C.due("none such: " + athlete, z.of(athlete, 0), THROWS);
             C.due("none such: " + athlete, z.chance(athlete, true), NONE);
